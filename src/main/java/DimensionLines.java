@@ -255,20 +255,18 @@ public final class DimensionLines {
         if (!isWithin(chain, 1, MOST_CHAIN) || !isWithin(what, 0, 8)) {
             return BAD;
         }
-        switch (what) {
-            case 0: return drawing.countOfChain(chain);
-            case 4: return drawing.sumOfValues(chain);
-            case 5: return drawing.sumOfChain(chain, drawing.minus);
-            case 6: return drawing.sumOfChain(chain, drawing.plus);
-            default: return drawing.countOfChain(chain) == 0 ? NONE : placeOfChain(chain, what);
+        int number = drawing.countOfChain(chain);
+        if (number == 0) {
+            return what == 0 || isWithin(what, 4, 6) ? 0 : NONE;
         }
-    }
-
-    private int placeOfChain(int chain, int what) {
         switch (what) {
+            case 0: return number;
             case 1: return drawing.positions[drawing.beginOfChain(chain)];
             case 2: return drawing.positions[drawing.endOfChain(chain)];
             case 3: return drawing.isClosed(chain) ? 1 : 0;
+            case 4: return drawing.sumOfValues(chain);
+            case 5: return drawing.sumOfChain(chain, drawing.minus);
+            case 6: return drawing.sumOfChain(chain, drawing.plus);
             case 7: return drawing.smallestOver(chain);
             default: return laidLanes().laneOfChain(drawing, chain);
         }
@@ -1057,15 +1055,15 @@ public final class DimensionLines {
         }
 
         private boolean isSuperfluous(int d) {
+            int forth = 2 * d;
+            int back = 2 * d + 1;
             removed[d] = true;
-            boolean holds = isStepImplied(2 * d) && isStepImplied(2 * d + 1);
+            findWays(stepFrom[forth], ways);
+            boolean implied = ways[stepTo[forth]] <= stepLength[forth];
+            findWays(stepFrom[back], ways);
+            implied = implied && ways[stepTo[back]] <= stepLength[back];
             removed[d] = false;
-            return holds;
-        }
-
-        private boolean isStepImplied(int step) {
-            findWays(stepFrom[step], ways);
-            return ways[stepTo[step]] <= stepLength[step];
+            return implied;
         }
 
         private void findWays(int source, int[] row) {

@@ -6,6 +6,7 @@ public final class ChainTest {
 
     public static void main(String[] args) {
         promise23Properties();
+        promise23BehindDrop();
         promise23WithoutDimensions();
         promise23WrongArguments();
         promise23Closed();
@@ -31,6 +32,22 @@ public final class ChainTest {
         properties("p10,40,60,130;0-2c3;1-3c3", 3, 2, 10, 130, 0, 140, 0, 0, NONE, 0);
         properties("p10,40,60,130;1-3c2;0-1c2;0-3;0-3c4;0-3c4", 2, 2, 10, 130, 1, 120, 0, 0, 2, 0);
         properties("p10,40,60,130;1-3c2;0-1c2;0-3;0-3c4;0-3c4", 4, 2, 10, 130, 0, 240, 0, 0, 2, 2);
+    }
+
+    private static void promise23BehindDrop() {
+        DimensionLines x = Checks.drawn("p10,40,60,130;0-1c1;0-3;1-3c1;2-3c2;0-1");
+        due("over before drop", x.chain(1, 7), 1);
+        x.drop(4);
+        x.drop(2);
+        int[] properties = {1, 10, 40, 1, 30, 0, 0, NONE, 0};
+        for (int what = 0; what <= 8; what++) {
+            due("behind drop: chain 1, " + what, x.chain(1, what), properties[what]);
+        }
+        x.drop(2);
+        due("behind drop: chain 2", x.chain(2, 0), 0);
+        due("behind drop: lane of chain 2", x.chain(2, 8), NONE);
+        x.drop(0);
+        due("behind drop: begin of chain 1", x.chain(1, 1), NONE);
     }
 
     private static void promise23WithoutDimensions() {
@@ -79,6 +96,7 @@ public final class ChainTest {
         over("p0,10,20,30;0-1c1;1-2c1;0-2c1", NONE);
         over("p0,10,20,30;0-2c1;1-2c1;0-2c1;0-2c2;0-2", 3);
         over("p0,10,20,30;0-3;0-1;0-2;0-1c1;0-2;1-2c1", 2);
+        over("p0,10,20,30;0-2;0-1c1;1-2c1", 0);
         over("p0,10,20,30;0-1c1;0-1", 1);
         over("p0,10,20,30;0-1c1;2-3c1;0-3", 2);
         over("p0,10,20,30;0-1c1;1-2c1;0-3;1-2", NONE);

@@ -196,6 +196,8 @@ public final class DrawnTest {
         due("units", x.count(2), 2);
         lanes("p0,30,100,130,190;0-1c1;3-4c1;1-2", 1, 1, 0);
         lanes("p0,30,50,80,110,190,220;0-1c1;5-6c1;2-3c2;3-4c2", 1, 1, 0, 0);
+        lanes("p0,50,100,160;1-2c1;0-1c1;1-3;2-3", 1, 1, 2, 0);
+        lanes("p0,20,50,100,160;2-3c1;0-1c1;1-3", 1, 1, 0);
         x = Checks.drawn("p0,40,60,100,140;0-1c1;3-4c1;1-4");
         lanes("a gap in a chain, but touched at its ends", x, 1, 1, 0);
     }
@@ -231,7 +233,11 @@ public final class DrawnTest {
         due("three that overlap: crossings", x.count(4), 3);
         x = Checks.drawn("p0,100,200;0-2;0-1");
         x.setLeast(1, 3);
-        due("a witness line of the lane itself crosses nothing", x.point(1, 3), 0);
+        due("a witness line to above crosses what lies below", x.point(1, 3), 0);
+        x = Checks.drawn("p0,50,100,150;0-2c1;1-3c1");
+        due("a witness line crosses nothing of its own lane", x.count(4), 0);
+        due("a dimension of its own lane is not crossed", x.dimension(0, 12), 0);
+        witnessLinesBehindChanges();
         x = Checks.drawn("p0,100,200;0-1;1-2;0-2");
         due("a witness line at an end crosses nothing", x.count(4), 0);
         x = Checks.drawn("p0,30,60,200;0-3;0-1c1;1-2c1");
@@ -239,6 +245,23 @@ public final class DrawnTest {
         due("a dimension above is not crossed", x.count(4), 0);
         x = Checks.drawn("p0,30,60;0-2;0-2");
         due("a point without dimensions has no witness line", x.point(1, 3), 0);
+    }
+
+    private static void witnessLinesBehindChanges() {
+        DimensionLines x = Checks.drawn("p0,50,100,150,200,250;0-3;2-5;1-4");
+        due("crossings before a change", x.count(4), 3);
+        x.setTolerance(0, 1, 1);
+        due("crossings behind a change", x.count(4), 3);
+        due("crossings of a point behind a change", x.point(2, 3), 2);
+        due("crossings of a dimension behind a change", x.dimension(0, 12), 2);
+        x.drop(2);
+        due("crossings behind drop", x.count(4), 1);
+        due("crossings of a point behind drop", x.point(1, 3), 0);
+        x.drop(1);
+        due("crossings of the only one", x.count(4), 0);
+        due("at behind drop", x.at(1, 150), NONE);
+        x.drop(0);
+        due("at without dimensions", x.at(0, 50), NONE);
     }
 
     private static void promise18At() {

@@ -157,8 +157,27 @@ public final class ToleranceTest {
         due(text + ": needed changes nothing", x.digest(), before);
     }
 
+    private static void neededBetweenChanges() {
+        DimensionLines x = Checks.drawn("p0,30,50;0-1;0-1;0-1;1-2+1");
+        due("needed before a change", x.needed(), 2);
+        due("superfluous before a change", x.count(6), 3);
+        x.setTolerance(0, 5, 5);
+        due("needed behind a change", x.needed(), 2);
+        x.drop(0);
+        due("superfluous behind drop", x.count(6), 2);
+        due("needed behind drop", x.needed(), 2);
+        x.drop(0);
+        bounds("behind needed and drop", x, 0, 1, 30, 30);
+        due("superfluous behind drop of another", x.count(6), 0);
+        x.setTolerance(1, 7, 7);
+        bounds("behind needed and a tolerance", x, 0, 2, 43, 57);
+        x.undo();
+        bounds("behind undo", x, 0, 2, 50, 51);
+    }
+
     private static void promise22Needed() {
         due("needed without dimensions", new DimensionLines().needed(), 0);
+        neededBetweenChanges();
         needs(TRIANGLE, 3);
         needs("p0,30,50;0-1;1-2;0-2", 2);
         needs("p0,30;0-1;0-1;0-1", 1);
