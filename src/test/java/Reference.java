@@ -335,9 +335,9 @@ final class Reference {
             if (lane != otherLane) continue;
             for (D d : unit) {
                 for (D e : other) {
-                    for (int x = begin(d, arrowLength); x <= end(d, arrowLength); x++) {
-                        if (begin(e, arrowLength) <= x && x <= end(e, arrowLength)) return false;
-                    }
+                    boolean apart = end(d, arrowLength) < begin(e, arrowLength)
+                            || end(e, arrowLength) < begin(d, arrowLength);
+                    if (!apart) return false;
                 }
             }
         }
@@ -363,8 +363,8 @@ final class Reference {
 
     private boolean crosses(P p, int dimension) {
         D d = dims.get(dimension);
-        return lanes(arrow)[dimension] < top(p)
-                && d.first().position < p.position && p.position < d.second().position;
+        boolean within = d.first().position < p.position && p.position < d.second().position;
+        return within && lanes(arrow)[dimension] < top(p);
     }
 
     /** The greatest differences of positions, FAR where there is no limit. */
@@ -473,17 +473,26 @@ final class Reference {
     int ifExact(int dimension, int a, int b) {
         if (noDim(dimension) || noPoint(a) || noPoint(b) || a == b) return BAD;
         long[][] now = greatest(dims, null);
-        if (now[a][b] == FAR) return NONE;
+        return now[a][b] == FAR ? NONE : gain(now, dimension, a, b);
+    }
+
+    private int gain(long[][] now, int dimension, int a, int b) {
         long[][] then = greatest(dims, dims.get(dimension));
         return (int) (now[a][b] + now[b][a] - then[a][b] - then[b][a]);
     }
 
     int critical(int a, int b) {
         if (noPoint(a) || noPoint(b) || a == b) return BAD;
-        if (distance(a, b, true) == NONE) return NONE;
+        long[][] now = greatest(dims, null);
+        if (now[a][b] == FAR) return NONE;
         int best = 0;
+        int most = -1;
         for (int d = 0; d < dims.size(); d++) {
-            if (ifExact(d, a, b) > ifExact(best, a, b)) best = d;
+            int gain = gain(now, d, a, b);
+            if (gain > most) {
+                most = gain;
+                best = d;
+            }
         }
         return best;
     }

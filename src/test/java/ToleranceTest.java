@@ -168,6 +168,7 @@ public final class ToleranceTest {
         due("needed behind drop", x.needed(), 2);
         x.drop(0);
         bounds("behind needed and drop", x, 0, 1, 30, 30);
+        bounds("behind needed and drop", x, 0, 2, 50, 51);
         due("superfluous behind drop of another", x.count(6), 0);
         x.setTolerance(1, 7, 7);
         bounds("behind needed and a tolerance", x, 0, 2, 43, 57);
