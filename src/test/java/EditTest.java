@@ -287,7 +287,11 @@ public final class EditTest {
         DimensionLines x = Checks.drawn("p10,20,30,40,60;0-1+1-2c1;1-2;0-2-3");
         long[] shapes = new long[7];
         for (int kind = 0; kind < 7; kind++) {
-            shapes[kind] = shape(x);
+            DimensionLines twin = Checks.drawn("p10,20,30,40,60;0-1+1-2c1;1-2;0-2-3");
+            for (int before = 0; before < kind; before++) {
+                change(twin, before);
+            }
+            shapes[kind] = shape(twin);
             change(x, kind);
         }
         for (int kind = 6; kind >= 0; kind--) {

@@ -52,6 +52,8 @@ final class Reference {
     private List<D> dims = new ArrayList<>();
     private int letter = 4, arrow = 3, faultKind = 0;
     private String text = "";
+    private int[] laid;
+    private long[][] known;
     private final Deque<Snapshot> history = new ArrayDeque<>();
 
     private Snapshot snapshot() {
@@ -75,10 +77,27 @@ final class Reference {
     }
 
     private void change() {
+        forget();
         history.addLast(snapshot());
         if (history.size() > 8) {
             history.removeFirst();
         }
+    }
+
+    /** Lanes and distances are kept from one change to the next, only to make long comparisons short. */
+    private void forget() {
+        laid = null;
+        known = null;
+    }
+
+    private int[] laid() {
+        if (laid == null) laid = lanes(arrow);
+        return laid;
+    }
+
+    private long[][] known() {
+        if (known == null) known = greatest(dims, null);
+        return known;
     }
 
     private void sortPoints() {
@@ -353,7 +372,7 @@ final class Reference {
     }
 
     private int top(P p) {
-        int[] lanes = lanes(arrow);
+        int[] lanes = laid();
         int top = NONE;
         for (int d = 0; d < dims.size(); d++) {
             if (dims.get(d).a == p || dims.get(d).b == p) top = Math.max(top, lanes[d]);
@@ -364,7 +383,7 @@ final class Reference {
     private boolean crosses(P p, int dimension) {
         D d = dims.get(dimension);
         boolean within = d.first().position < p.position && p.position < d.second().position;
-        return within && lanes(arrow)[dimension] < top(p);
+        return within && laid()[dimension] < top(p);
     }
 
     /** The greatest differences of positions, FAR where there is no limit. */
@@ -406,7 +425,7 @@ final class Reference {
     }
 
     private int group(int point) {
-        long[][] most = greatest(dims, null);
+        long[][] most = known();
         List<Integer> smallest = new ArrayList<>();
         for (int p = 0; p < points.size(); p++) {
             int s = p;
@@ -447,7 +466,7 @@ final class Reference {
             case 7: return form(d, arrow);
             case 8: return begin(d, arrow);
             case 9: return end(d, arrow);
-            case 10: return lanes(arrow)[dimension];
+            case 10: return laid()[dimension];
             case 11: return superfluous(d, dims) ? 1 : 0;
             default: return (int) points.stream().filter(p -> crosses(p, dimension)).count();
         }
@@ -455,7 +474,7 @@ final class Reference {
 
     int at(int lane, int position) {
         if (lane < 0 || position < -9 || position > 400) return BAD;
-        int[] lanes = lanes(arrow);
+        int[] lanes = laid();
         for (int d = 0; d < dims.size(); d++) {
             D at = dims.get(d);
             if (lanes[d] == lane && begin(at, arrow) <= position && position <= end(at, arrow)) return d;
@@ -465,14 +484,14 @@ final class Reference {
 
     int distance(int a, int b, boolean greatest) {
         if (noPoint(a) || noPoint(b) || a == b) return BAD;
-        long[][] most = greatest(dims, null);
+        long[][] most = known();
         if (most[a][b] == FAR) return NONE;
         return (int) (greatest ? most[a][b] : -most[b][a]);
     }
 
     int ifExact(int dimension, int a, int b) {
         if (noDim(dimension) || noPoint(a) || noPoint(b) || a == b) return BAD;
-        long[][] now = greatest(dims, null);
+        long[][] now = known();
         return now[a][b] == FAR ? NONE : gain(now, dimension, a, b);
     }
 
@@ -483,7 +502,7 @@ final class Reference {
 
     int critical(int a, int b) {
         if (noPoint(a) || noPoint(b) || a == b) return BAD;
-        long[][] now = greatest(dims, null);
+        long[][] now = known();
         if (now[a][b] == FAR) return NONE;
         int best = 0;
         int most = -1;
@@ -522,7 +541,7 @@ final class Reference {
         if (own.isEmpty()) return NONE;
         if (what == 1) return from(own);
         if (what == 2) return to(own);
-        if (what == 8) return lanes(arrow)[dims.indexOf(own.get(0))];
+        if (what == 8) return laid()[dims.indexOf(own.get(0))];
         if (what == 3) {
             own.sort(Comparator.comparingInt(d -> d.first().position));
             for (int i = 1; i < own.size(); i++) {
@@ -544,6 +563,7 @@ final class Reference {
 
     int undo() {
         if (history.isEmpty()) return STATE;
+        forget();
         Snapshot s = history.removeLast();
         points = s.points;
         dims = s.dims;

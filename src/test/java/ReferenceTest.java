@@ -3,14 +3,16 @@
  * every answer is compared, and now and then the digests.
  */
 public final class ReferenceTest {
-    private static final int RUNS = 60;
-    private static final int CALLS = 512;
+    private static final int RUNS = 240;
     private static final int TEXTS = 6000;
+    /** What an object answers behind its 512th call is free, and reading a text takes up to 87 calls. */
+    private static final int LAST_CALLS = 512 - 90;
 
     private final Checks checks = new Checks("ReferenceTest");
     private long seed;
     private DimensionLines x;
     private Reference r;
+    private int calls;
 
     public static void main(String[] args) {
         ReferenceTest test = new ReferenceTest();
@@ -40,12 +42,17 @@ public final class ReferenceTest {
         return around(0, Math.max(0, r.count(1) - 1));
     }
 
-    private void run(int number) {
-        seed = number;
+    private void makeNew() {
         x = new DimensionLines();
         r = new Reference();
+        calls = 0;
+    }
+
+    private void run(int number) {
+        seed = number;
+        makeNew();
         int range = number % 3 == 0 ? 300 : number % 3 == 1 ? 40 : 120;
-        for (int call = 0; call < CALLS / 2; call++) {
+        for (int call = 0; calls < LAST_CALLS; call++) {
             String name = "run " + number + " call " + call;
             if (below(3) > 0) {
                 change(name, range);
@@ -58,7 +65,9 @@ public final class ReferenceTest {
         }
     }
 
+    /** Called with each answer of x. */
     private void same(String call, long got, long want) {
+        calls++;
         checks.due(call, got, want);
     }
 
@@ -119,9 +128,11 @@ public final class ReferenceTest {
 
     private void texts(int number) {
         seed = 4711;
-        x = new DimensionLines();
-        r = new Reference();
+        makeNew();
         for (int i = 0; i < number; i++) {
+            if (calls >= LAST_CALLS) {
+                makeNew();
+            }
             loadText("text " + i, someText());
             if (i % 8 == 0) {
                 same("text " + i + " digest", x.digest(), r.digest());
